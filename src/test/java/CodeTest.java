@@ -146,8 +146,50 @@ final class CodeTest {
         DUE.is("valueByCode of the least constant", Integer.MIN_VALUE, least.valueByCode(0));
     }
 
+    /** Each answer belongs to its own formula, whichever was asked before. */
+    private static void inTurn() {
+        ExpressionCompiler x = Due.compilerWith("a+b*c", "5", "-d");
+        x.setRegisters(1);
+        for (int turn = 0; turn < 3; turn++) {
+            DUE.is("instructionKind(0,3)", 's', kindBehind(x, 0, 1, 1));
+            DUE.is("instructionKind(1,0)", 'c', kindBehind(x, 1, 0, 0));
+            DUE.is("instructionKind(2,1)", 'n', kindBehind(x, 2, 0, 1));
+            x.codeLength(1);
+            DUE.is("storeCount(0)", 2, x.storeCount(0));
+            x.codeLength(1);
+            DUE.is("slotCount(0)", 1, x.slotCount(0));
+            x.codeLength(1);
+            DUE.is("storeShare(0)", 2.0f / 7.0f, x.storeShare(0));
+            x.codeLength(1);
+            DUE.is("writeInstruction(0,3)", 8, x.writeInstruction(0, 3));
+            x.codeLength(0);
+            DUE.is("storeCount(2)", 0, x.storeCount(2));
+            DUE.is("codeLength(2)", 2, x.codeLength(2));
+        }
+        ExpressionCompiler y = Due.compilerWith("a*b", "(a-b)*(c-d)");
+        y.setRegisters(3);
+        y.codeLength(0);
+        DUE.is("instructionRegister(1,4)", 2, y.instructionRegister(1, 4));
+        y.codeLength(1);
+        DUE.is("instructionRegister(0,1)", 1, y.instructionRegister(0, 1));
+        y.codeLength(1);
+        DUE.fails("instructionRegister(0,4)", IndexOutOfBoundsException.class, () -> y.instructionRegister(0, 4));
+        y.leastRegistersWithoutStore(1);
+        DUE.is("slotCount(1)", 0, y.slotCount(1));
+        y.setRegisters(2);
+        DUE.is("slotCount(1) with 2", 1, y.slotCount(1));
+        y.undo();
+        DUE.is("slotCount(1) after undo", 0, y.slotCount(1));
+    }
+
+    private static char kindBehind(ExpressionCompiler x, int formula, int before, int index) {
+        x.codeLength(before);
+        return x.instructionKind(formula, index);
+    }
+
     private static void wrongFormulas() {
         ExpressionCompiler x = Due.compilerWith("a+b");
+        x.codeLength(0);
         x.writeFormula(0);
         Class<IndexOutOfBoundsException> want = IndexOutOfBoundsException.class;
         for (int f : new int[] {1, -1, Integer.MAX_VALUE, Integer.MIN_VALUE}) {
@@ -173,6 +215,7 @@ final class CodeTest {
         storeCounts();
         shares();
         constants();
+        inTurn();
         wrongFormulas();
         DUE.end();
     }

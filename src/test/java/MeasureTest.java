@@ -116,6 +116,8 @@ final class MeasureTest {
         common("-a", "a", 1);
         common("5*a", "-5+b", 1);
         common("a+1+(b+2)+(c+3+(d+4))+(e+5+(f+6)+(7+8+(9+10)))", "a+1+(b+2)+(c+3+(d+4))+(e+5+(f+6)+(7+8+(9+10)))", 31);
+        // Both have 31 different trees, and share the 16 without operands.
+        common("a+b+(c+d)+(e+f+(1+2))+(3+4+(5+6)+(7+8+(9+0)))", "a*b*(c*d)*(e*f*(1*2))*(3*4*(5*6)*(7*8*(9*0)))", 16);
         ExpressionCompiler x = Due.compilerWith("a");
         DUE.fails("commonParts(0,1)", IndexOutOfBoundsException.class, () -> x.commonParts(0, 1));
         DUE.fails("commonParts(1,0)", IndexOutOfBoundsException.class, () -> x.commonParts(1, 0));
