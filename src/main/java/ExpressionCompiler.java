@@ -41,7 +41,6 @@ public final class ExpressionCompiler {
     private static final int BINDING_OF_PRODUCT = 2;
     private static final int BINDING_OF_FACTOR = 3;
 
-    private final Input input;
     private final StringBuilder output;
     private int latestError;
 
@@ -60,7 +59,6 @@ public final class ExpressionCompiler {
     private final Code code;
 
     public ExpressionCompiler() {
-        input = new Input();
         output = new StringBuilder();
         latestError = NONE;
         current = new State();
@@ -69,16 +67,17 @@ public final class ExpressionCompiler {
         history = new History();
         rough = new Tree(WORK_NODES);
         smooth = new Tree(WORK_NODES);
-        parser = new Parser(input, rough);
+        parser = new Parser();
         algebra = new Algebra();
         gauge = new Gauge();
         numbering = new Numbering();
-        code = new Code(gauge.needs());
+        code = new Code();
     }
 
     // ---- the input buffer
 
     public int feed(char character) throws IllegalStateException {
+        Input input = parser.input();
         if (input.isFull()) {
             throw new IllegalStateException("the input buffer is full");
         }
@@ -87,8 +86,8 @@ public final class ExpressionCompiler {
     }
 
     public int clearBuffer() {
-        int held = input.length();
-        input.clear();
+        int held = parser.input().length();
+        parser.input().clear();
         return held;
     }
 
@@ -97,15 +96,15 @@ public final class ExpressionCompiler {
     public int addFormula()
             throws IllegalArgumentException, IllegalStateException, UnsupportedOperationException {
         int root = parser.parse();
-        input.clear();
+        parser.input().clear();
         if (root == NONE) {
             latestError = parser.position();
             throw new IllegalArgumentException("the text is malformed");
         }
         requireRoomForFormula();
-        requireLimits(rough, root);
+        requireLimits(parser.tree(), root);
         history.remember(current);
-        return current.append(formulaFrom(rough, root));
+        return current.append(formulaFrom(parser.tree(), root));
     }
 
     public int removeFormula(int formula) throws IndexOutOfBoundsException {
@@ -282,17 +281,17 @@ public final class ExpressionCompiler {
     }
 
     public int codeLength(int formula) throws IndexOutOfBoundsException {
-        translate(formulaAt(formula), current.machine());
+        code.translate(formulaAt(formula), current.machine());
         return code.length();
     }
 
     public int storeCount(int formula) throws IndexOutOfBoundsException {
-        translate(formulaAt(formula), current.machine());
+        code.translate(formulaAt(formula), current.machine());
         return code.stores();
     }
 
     public int slotCount(int formula) throws IndexOutOfBoundsException {
-        translate(formulaAt(formula), current.machine());
+        code.translate(formulaAt(formula), current.machine());
         return code.slots();
     }
 
@@ -300,7 +299,7 @@ public final class ExpressionCompiler {
             throws IndexOutOfBoundsException, NoSuchElementException {
         Tree tree = formulaAt(formula);
         for (int registers = 1; registers <= MOST_REGISTERS; registers++) {
-            translate(tree, registers);
+            code.translate(tree, registers);
             if (code.stores() == 0) {
                 return registers;
             }
@@ -309,13 +308,13 @@ public final class ExpressionCompiler {
     }
 
     public char instructionKind(int formula, int index) throws IndexOutOfBoundsException {
-        translate(formulaAt(formula), current.machine());
+        code.translate(formulaAt(formula), current.machine());
         requireInstruction(index);
         return code.kind(index);
     }
 
     public int instructionRegister(int formula, int index) throws IndexOutOfBoundsException {
-        translate(formulaAt(formula), current.machine());
+        code.translate(formulaAt(formula), current.machine());
         requireInstruction(index);
         return code.register(index);
     }
@@ -323,7 +322,7 @@ public final class ExpressionCompiler {
     // ---- the output
 
     public int writeInstruction(int formula, int index) throws IndexOutOfBoundsException {
-        translate(formulaAt(formula), current.machine());
+        code.translate(formulaAt(formula), current.machine());
         requireInstruction(index);
         output.setLength(0);
         code.write(index, output);
@@ -374,7 +373,7 @@ public final class ExpressionCompiler {
     }
 
     public float storeShare(int formula) throws IndexOutOfBoundsException {
-        translate(formulaAt(formula), current.machine());
+        code.translate(formulaAt(formula), current.machine());
         if (code.length() == 0) {
             return 0.0f;
         }
@@ -473,13 +472,8 @@ public final class ExpressionCompiler {
         return formula;
     }
 
-    private void translate(Tree tree, int registers) {
-        gauge.need(tree);
-        code.translate(tree, registers);
-    }
-
     private int resultOfCode(Tree tree) {
-        translate(tree, current.machine());
+        code.translate(tree, current.machine());
         return code.run(current.letters());
     }
 
@@ -773,16 +767,25 @@ public final class ExpressionCompiler {
         }
     }
 
-    /** Reads the input buffer from the left; where it stops is the error position. */
+    /** The input buffer and what reads it from the left; where this stops is the error position. */
     private static final class Parser {
         private final Input text;
         private final Tree tree;
         private int position;
 
-        Parser(Input input, Tree into) {
-            text = input;
-            tree = into;
+        Parser() {
+            text = new Input();
+            tree = new Tree(MOST_CHARACTERS);
             position = 0;
+        }
+
+        Input input() {
+            return text;
+        }
+
+        /** The tree of the text that was parsed last. */
+        Tree tree() {
+            return tree;
         }
 
         int position() {
@@ -1093,9 +1096,9 @@ public final class ExpressionCompiler {
             return needs.get(tree.root());
         }
 
-        /** The needs of the nodes of the tree that was measured last. */
-        Row needs() {
-            return needs;
+        /** The need of a node of the tree that was measured last. */
+        int needOf(int node) {
+            return needs.get(node);
         }
 
         private int needOfNode(Tree tree, int node) {
@@ -1178,13 +1181,13 @@ public final class ExpressionCompiler {
         private final Row rights;
         private int length;
 
-        private final Row needs;
+        private final Gauge gauge;
         private final Row busySlots;
         private final Row places;
         private int machine;
 
-        Code(Row needsOfNodes) {
-            needs = needsOfNodes;
+        Code() {
+            gauge = new Gauge();
             kinds = new Row(MOST_INSTRUCTIONS);
             registers = new Row(MOST_INSTRUCTIONS);
             numbers = new Row(MOST_INSTRUCTIONS);
@@ -1229,8 +1232,8 @@ public final class ExpressionCompiler {
             return used;
         }
 
-        /** Expects the needs of the nodes of this tree in the row that it was made with. */
         void translate(Tree tree, int registersOfMachine) {
+            gauge.need(tree);
             machine = registersOfMachine;
             length = 0;
             translateNode(tree, tree.root(), 0, 1);
@@ -1254,12 +1257,12 @@ public final class ExpressionCompiler {
         private void translateOperator(Tree tree, int node, int register, int level) {
             int left = tree.left(node);
             int right = tree.right(node);
-            boolean isLeftFirst = needs.get(left) >= needs.get(right);
+            boolean isLeftFirst = gauge.needOf(left) >= gauge.needOf(right);
             int other = isLeftFirst ? right : left;
             translateNode(tree, isLeftFirst ? left : right, register, level + 1);
             int placeOfFirst = register;
             int placeOfOther = register + 1;
-            if (needs.get(other) < machine - register) {
+            if (gauge.needOf(other) < machine - register) {
                 translateNode(tree, other, register + 1, level + 1);
             } else {
                 int slot = takeSlot();
