@@ -1,3 +1,6 @@
+import java.util.ArrayList;
+import java.util.List;
+
 /** Promises 44 to 47: undo, save and restore. */
 final class UndoTest {
     private static final Due DUE = new Due();
@@ -142,6 +145,159 @@ final class UndoTest {
         DUE.is("state of six", "a b c d e f 0 0 0 0 0 0 2 0", Due.state(x));
     }
 
+    /** "At most the 8 latest calls can be undone", of whatever kind; the ninth cannot. */
+    private static void eightOfAllKinds() {
+        for (int extra = 0; extra <= 3; extra++) {
+            ExpressionCompiler x = new ExpressionCompiler();
+            List<Due.Call> calls = new ArrayList<>();
+            calls.add(() -> Due.add(x, "a*b+0"));
+            calls.add(() -> Due.add(x, "c-d"));
+            calls.add(() -> x.setVariable('b', 7));
+            calls.add(() -> x.simplify(0));
+            calls.add(() -> x.differentiate(0, 'a'));
+            calls.add(() -> x.substitute(1, 'd', 0));
+            calls.add(() -> x.setRegisters(4));
+            calls.add(() -> x.removeFormula(0));
+            calls.add(() -> x.setVariable('b', 7));
+            calls.add(() -> x.simplify(0));
+            calls.add(() -> x.setRegisters(1));
+            List<String> states = new ArrayList<>();
+            for (int i = 0; i < 8 + extra; i++) {
+                states.add(Due.state(x));
+                calls.get(i).make();
+                DUE.is("undoCount() after " + (i + 1), Math.min(i + 1, 8), x.undoCount());
+            }
+            for (int left = 7; left >= 0; left--) {
+                DUE.is("undo() to " + left + " of " + (8 + extra), left, x.undo());
+                DUE.is("undoCount() with " + left, left, x.undoCount());
+                DUE.is("state with " + left + " of " + (8 + extra), states.get(left + extra), Due.state(x));
+            }
+            DUE.fails("undo() of the ninth", IllegalStateException.class, () -> x.undo());
+            DUE.is("undoCount() after the ninth", 0, x.undoCount());
+            DUE.is("state after the ninth", states.get(extra), Due.state(x));
+        }
+    }
+
+    /** What has been given up stays so: calls after an undo do not bring the ninth back. */
+    private static void theNinthStaysAway() {
+        ExpressionCompiler x = new ExpressionCompiler();
+        for (int value = 1; value <= 9; value++) {
+            x.setVariable('a', value);
+        }
+        x.undo();
+        x.undo();
+        x.setRegisters(1);
+        DUE.is("undoCount() of six and one", 7, x.undoCount());
+        x.setRegisters(3);
+        x.setRegisters(4);
+        DUE.is("undoCount() of eight", 8, x.undoCount());
+        int[] registers = {3, 1, 2, 2, 2, 2, 2, 2};
+        int[] values = {7, 7, 7, 6, 5, 4, 3, 2};
+        for (int i = 0; i < 8; i++) {
+            DUE.is("undo() number " + i, 7 - i, x.undo());
+            DUE.is("registers() after undo number " + i, registers[i], x.registers());
+            DUE.is("variable(a) after undo number " + i, values[i], x.variable('a'));
+        }
+        DUE.fails("undo() of the ninth", IllegalStateException.class, () -> x.undo());
+        DUE.is("variable(a) in the end", 2, x.variable('a'));
+    }
+
+    /** "Recorded when they return normally": neither what throws nor any other method. */
+    private static void onlyTheseCalls() {
+        ExpressionCompiler x = Due.compilerWith("a+b");
+        String before = Due.state(new ExpressionCompiler());
+        Due.feed(x, "c");
+        x.clearBuffer();
+        x.save();
+        x.writeFormula(0);
+        DUE.fails("setVariable(a,1000)", IllegalArgumentException.class, () -> x.setVariable('a', 1000));
+        DUE.fails("setRegisters(5)", IllegalArgumentException.class, () -> x.setRegisters(5));
+        DUE.fails("simplify(1)", IndexOutOfBoundsException.class, () -> x.simplify(1));
+        DUE.fails("substitute(0,g,0)", IllegalArgumentException.class, () -> x.substitute(0, 'g', 0));
+        DUE.fails("differentiate(0,g)", IllegalArgumentException.class, () -> x.differentiate(0, 'g'));
+        DUE.fails("addFormula()", IllegalArgumentException.class, () -> x.addFormula());
+        Due.feed(x, "a+a+a+a+a+a+a+a+a");
+        DUE.fails("addFormula() too deep", UnsupportedOperationException.class, () -> x.addFormula());
+        DUE.is("undoCount() of one", 1, x.undoCount());
+        DUE.is("undo() of the one", 0, x.undo());
+        DUE.is("state before the one", before, Due.state(x));
+        // An undo is not recorded, so there is nothing that would bring the formula back.
+        DUE.fails("undo() of undo()", IllegalStateException.class, () -> x.undo());
+        DUE.is("state stays", before, Due.state(x));
+    }
+
+    private static void failToAdd(ExpressionCompiler x, String text) {
+        Due.feed(x, text);
+        DUE.fails("addFormula() of " + text, IllegalArgumentException.class, () -> x.addFormula());
+    }
+
+    /** "The input buffer, the output and the error position are not part of the undone or saved state." */
+    private static void apartFromTheState() {
+        ExpressionCompiler x = new ExpressionCompiler();
+        failToAdd(x, "+");
+        Due.add(x, "a*b");
+        x.writeFormula(0);
+        Due.feed(x, "1+");
+        x.save();
+        x.clearBuffer();
+        Due.add(x, "c");
+        failToAdd(x, "a-");
+        x.writeFormula(1);
+        x.setRegisters(1);
+        failToAdd(x, "a-b)");
+        x.writeInstruction(0, 1);
+        Due.feed(x, "d");
+        for (int left = 2; left >= 0; left--) {
+            DUE.is("undo()", left, x.undo());
+            DUE.is("errorPosition() after undo()", 3, x.errorPosition());
+            DUE.is("output after undo()", "m0=r0", Due.output(x, 5));
+        }
+        DUE.is("restore()", 1, x.restore());
+        DUE.is("errorPosition() after restore()", 3, x.errorPosition());
+        DUE.is("output after restore()", "m0=r0", Due.output(x, 5));
+        DUE.fails("output ends", IndexOutOfBoundsException.class, () -> x.outputChar(5));
+        DUE.is("clearBuffer() after undo() and restore()", 1, x.clearBuffer());
+        x.restore();
+        DUE.is("clearBuffer() after the second restore()", 0, x.clearBuffer());
+    }
+
+    /** "An earlier saved state is replaced", and "the saved state is kept". */
+    private static void savedState() {
+        ExpressionCompiler x = Due.compilerWith("a", "b+0", "c");
+        x.simplify(1);
+        DUE.is("save() of three", 3, x.save());
+        x.removeFormula(2);
+        x.removeFormula(1);
+        x.setVariable('a', 5);
+        DUE.is("save() of one", 1, x.save());
+        Due.add(x, "d");
+        Due.add(x, "e*1");
+        x.simplify(2);
+        for (int turn = 0; turn < 3; turn++) {
+            DUE.is("restore() of one", 1, x.restore());
+            DUE.is("state of one", "a 5 0 0 0 0 0 2 2", Due.state(x));
+            DUE.is("undoCount() after restore()", 0, x.undoCount());
+            DUE.fails("undo() after restore()", IllegalStateException.class, () -> x.undo());
+            x.substitute(0, 'a', 0);
+            x.setVariable('a', turn);
+            Due.add(x, "--f");
+            x.simplify(1);
+            x.undo();
+            x.undo();
+        }
+        DUE.is("state before the last restore()", "a 2 0 0 0 0 0 2 2", Due.state(x));
+        // The saved state stays when what came before it is undone.
+        ExpressionCompiler y = Due.compilerWith("a");
+        y.setVariable('f', 9);
+        y.save();
+        y.undo();
+        y.undo();
+        DUE.is("state of nothing", "0 0 0 0 0 0 2 0", Due.state(y));
+        DUE.is("restore() of what was undone", 1, y.restore());
+        DUE.is("state after restore()", "a 0 0 0 0 0 9 2 0", Due.state(y));
+        DUE.fails("undo() after restore()", IllegalStateException.class, () -> y.undo());
+    }
+
     public static void main(String[] args) {
         eachCall();
         notRecorded();
@@ -149,6 +305,11 @@ final class UndoTest {
         bufferStays();
         saveAndRestore();
         sixFormulas();
+        eightOfAllKinds();
+        theNinthStaysAway();
+        onlyTheseCalls();
+        apartFromTheState();
+        savedState();
         DUE.end();
     }
 }
