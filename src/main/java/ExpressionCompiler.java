@@ -803,7 +803,8 @@ public final class ExpressionCompiler {
         private int parseSum(int open) {
             int left = parseProduct(open);
             for (int turn = 0; turn < MOST_CHARACTERS && left != NONE && isAtSign(SUM, DIFFERENCE); turn++) {
-                left = parseRight(left, open, true);
+                char kind = takeSign();
+                left = join(kind, left, parseProduct(open));
             }
             return left;
         }
@@ -811,15 +812,13 @@ public final class ExpressionCompiler {
         private int parseProduct(int open) {
             int left = parseFactor(open);
             for (int turn = 0; turn < MOST_CHARACTERS && left != NONE && isAtSign(PRODUCT, PRODUCT); turn++) {
-                left = parseRight(left, open, false);
+                char kind = takeSign();
+                left = join(kind, left, parseFactor(open));
             }
             return left;
         }
 
-        private int parseRight(int left, int open, boolean isProduct) {
-            char kind = text.at(position);
-            position++;
-            int right = isProduct ? parseProduct(open) : parseFactor(open);
+        private int join(char kind, int left, int right) {
             return right == NONE ? NONE : tree.addOperator(kind, left, right);
         }
 
@@ -864,6 +863,12 @@ public final class ExpressionCompiler {
                 number = 10 * number + takeDigit();
             }
             return tree.addConstant(number);
+        }
+
+        private char takeSign() {
+            char sign = text.at(position);
+            position++;
+            return sign;
         }
 
         private int takeDigit() {
