@@ -385,7 +385,15 @@ final class LanguageTest {
             }
 
             @Override
+            public Void visitClass(ClassTree type, Void nothing) {
+                boolean isPlain = type.getExtendsClause() == null || isOwnType(typeOf(type.getExtendsClause()));
+                rule(6, type, type.getSimpleName() + " extends the library", isPlain);
+                return super.visitClass(type, nothing);
+            }
+
+            @Override
             public Void visitMethod(MethodTree method, Void nothing) {
+                rule(6, method, "a synchronized", !method.getModifiers().getFlags().contains(Modifier.SYNCHRONIZED));
                 rule(6, method, "a method of each object",
                         !Set.of("equals", "hashCode", "toString", "finalize").contains(method.getName().toString()));
                 return super.visitMethod(method, nothing);
